@@ -56,7 +56,7 @@ public final class PromisesTest {
     }
 
     private static void fill(BitSolver x) {
-        while (x.count(0) < 24) {
+        for (int i = x.count(0); i < 24; i++) {
             x.constant(1, 1);
         }
     }
@@ -288,6 +288,11 @@ public final class PromisesTest {
         fill(x);
         due("widen as 25th term", x.widen(a, 8, true), FULL);
         due("bad widen as 25th term", x.widen(a, 3, true), BAD);
+        BitSolver y = new BitSolver();
+        int word = y.word(3);
+        due("a word by model 6, with its sign", y.value(y.widen(word, 5, true), 6), 30);
+        due("a word by model 6, with 0s", y.value(y.widen(word, 5, false), 6), 6);
+        due("values of a word with its sign", y.values(1), 8);
     }
 
     private static void bits() {
@@ -374,6 +379,14 @@ public final class PromisesTest {
         due("claims are 9", x.count(2), 9);
         due("pop of the eighth", x.pop(), 1);
         due("push again", x.push(), 8);
+        x.clear();
+        int e = x.word(2);
+        int low = x.cut(e, 0, 1);
+        x.push();
+        x.claim(low);
+        due("models with a claim", x.models(), 2);
+        due("pop of one claim", x.pop(), 1);
+        due("models without it", x.models(), 4);
     }
 
     private static void models() {
@@ -448,8 +461,9 @@ public final class PromisesTest {
         due("least a", x.bound(0, false), 0);
         due("greatest a", x.bound(0, true), 6);
         due("least b", x.bound(1, false), 1);
+        due("greatest by model 1 alone", x.bound(x.act(15, 1, x.constant(3, 2)), true), 1);
         due("greatest b", x.bound(1, true), 7);
-        due("bound no term", x.bound(4, true), BAD);
+        due("bound no term", x.bound(6, true), BAD);
         due("bound -1", x.bound(-1, false), BAD);
         due("bound without models", unmet().bound(0, true), NONE);
         due("bad bound without models", unmet().bound(9, true), BAD);
@@ -482,6 +496,11 @@ public final class PromisesTest {
         due("-1", x.certain(-1), BAD);
         due("without models", unmet().certain(0), NONE);
         due("bad without models", unmet().certain(9), BAD);
+        BitSolver y = new BitSolver();
+        int b = y.word(2);
+        due("not by the first model alone", y.certain(y.act(15, b, y.constant(2, 0))), 0);
+        due("not by the second model alone", y.certain(y.act(15, b, y.constant(2, 1))), 0);
+        due("not by the last model alone", y.certain(y.act(15, b, y.constant(2, 3))), 0);
     }
 
     private static void same() {
@@ -494,6 +513,11 @@ public final class PromisesTest {
         due("no a", x.same(6, 0), BAD);
         due("no b", x.same(0, -1), BAD);
         due("without models", unmet().same(0, 1), 1);
+        BitSolver y = new BitSolver();
+        int c = y.word(2);
+        int no = y.constant(1, 0);
+        due("other by the first model alone", y.same(no, y.act(15, c, y.constant(2, 0))), 0);
+        due("other by the last model alone", y.same(no, y.act(15, c, y.constant(2, 3))), 0);
         due("other bits without models", unmet().same(0, 2), BAD);
     }
 
@@ -517,6 +541,30 @@ public final class PromisesTest {
         x.assume(zero);
         due("cores if claims alone can't be met", x.cores(), 0);
         due("core if claims alone can't be met", x.core(0), NONE);
+        BitSolver y = new BitSolver();
+        int yes = y.constant(1, 1);
+        int no = y.constant(1, 0);
+        y.assume(yes);
+        due("cores with one model", y.cores(), NONE);
+        due("core with one model", y.core(0), NONE);
+        y.assume(no);
+        y.assume(yes);
+        due("cores around it", y.cores(), 1);
+        due("core around it", y.core(0), no);
+        due("core(1)", y.core(1), NONE);
+        y.release();
+        int a = y.word(1);
+        int notA = y.act(0, a, 0);
+        for (int i = 0; i < 4; i++) {
+            y.assume(yes);
+        }
+        y.assume(a);
+        y.assume(yes);
+        y.assume(yes);
+        y.assume(notA);
+        due("cores of eight", y.cores(), 2);
+        due("the first of eight", y.core(0), a);
+        due("the second of eight", y.core(1), notA);
     }
 
     private static void coreOrder() {
@@ -561,13 +609,15 @@ public final class PromisesTest {
         due("xor of two bits", x.size(sum, 1), 3);
         due("and of two bits", x.size(x.act(2, a, b), 1), 2);
         due("a constant", x.size(x.constant(4, 9), 3), 0);
+        int mux = x.choose(x.cut(a, 2, 1), x.cut(a, 1, 1), x.cut(a, 0, 1));
+        due("one of two bits, by a third", x.size(mux, 0), 3);
         x.word(6);
         due("bits behind change nothing", x.size(equal, 0), 21);
         for (int i : new int[] {3, -1, LEAST, MOST}) {
             due("size(a, " + i + ")", x.size(a, i), BAD);
         }
         due("size(equal, 1)", x.size(equal, 1), BAD);
-        due("size of no term", x.size(7, 0), BAD);
+        due("size of no term", x.size(x.count(0), 0), BAD);
         due("size of -1", x.size(-1, 0), BAD);
     }
 
