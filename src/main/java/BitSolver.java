@@ -15,8 +15,8 @@ public final class BitSolver {
     private static final int MOST_CLAIMS = 16;
     private static final int MOST_ASSUMED = 8;
     private static final int MOST_LEVELS = 8;
-    private static final int[] NOTHING = {};
 
+    /** Null where there was never a term; behind termsMade are such as clear() left, to be used again. */
     private final Term[] terms = new Term[MOST_TERMS];
     private int termsMade = 0;
     private int freeBits = 0;
@@ -33,9 +33,6 @@ public final class BitSolver {
     private final Diagram diagram = new Diagram();
 
     public BitSolver() {
-        for (int i = 0; i < terms.length; i++) {
-            terms[i] = new Term();
-        }
         claims.empty(MOST_CLAIMS);
         assumed.empty(MOST_ASSUMED);
         levels.empty(MOST_LEVELS);
@@ -432,7 +429,8 @@ public final class BitSolver {
         }
         Term made = terms[termsMade];
         if (made == null) {
-            return null;
+            made = new Term();
+            terms[termsMade] = made;
         }
         termsMade++;
         made.width = width;
@@ -522,7 +520,7 @@ public final class BitSolver {
 
     /** Numbers in a row that looks at each index; its cells are kept when it is emptied. */
     private static final class Row {
-        private int[] cells = NOTHING;
+        private int[] cells = new int[0];
         private int used = 0;
 
         private int at(int place) {

@@ -461,9 +461,9 @@ public final class PromisesTest {
         due("least a", x.bound(0, false), 0);
         due("greatest a", x.bound(0, true), 6);
         due("least b", x.bound(1, false), 1);
-        due("greatest by model 1 alone", x.bound(x.act(15, 1, x.constant(3, 2)), true), 1);
+        due("greatest by model 1 alone", x.bound(x.act(15, x.act(18, 0, 1), x.constant(6, 2)), true), 1);
         due("greatest b", x.bound(1, true), 7);
-        due("bound no term", x.bound(6, true), BAD);
+        due("bound no term", x.bound(x.count(0), true), BAD);
         due("bound -1", x.bound(-1, false), BAD);
         due("bound without models", unmet().bound(0, true), NONE);
         due("bad bound without models", unmet().bound(9, true), BAD);
@@ -562,6 +562,7 @@ public final class PromisesTest {
         y.assume(yes);
         y.assume(yes);
         y.assume(notA);
+        due("the last of eight", y.count(3), 8);
         due("cores of eight", y.cores(), 2);
         due("the first of eight", y.core(0), a);
         due("the second of eight", y.core(1), notA);
@@ -592,6 +593,14 @@ public final class PromisesTest {
         x.assume(a);
         x.assume(a);
         due("the same twice", x.cores(), 1);
+        x.release();
+        x.assume(b);
+        x.assume(notB);
+        due("the first stays", x.core(0), b);
+        due("and the second", x.core(1), notB);
+        x.release();
+        x.assume(a);
+        x.assume(a);
         due("its term", x.core(0), a);
         due("assumed stay two", x.count(3), 2);
     }
