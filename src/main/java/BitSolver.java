@@ -5,7 +5,8 @@ import java.util.Arrays;
  *
  * An assignment is one number: all variables' bits in a row, the first variable's highest bit on top, so
  * that the order of the document is the order of these numbers. Each term keeps a row with its number for
- * each of them. With 12 bits at most, no row is longer than 4096.
+ * each of them. With 12 bits at most, no row is longer than 4096: all are made so long with the object and
+ * used again, so that no call makes anything.
  */
 public final class BitSolver {
     public static final int NONE = -1, BAD = -2, FULL = -3;
@@ -15,27 +16,29 @@ public final class BitSolver {
     private static final int MOST_CLAIMS = 16;
     private static final int MOST_ASSUMED = 8;
     private static final int MOST_LEVELS = 8;
+    /** So many assignments can there be, and so many numbers of one term. */
+    private static final int MOST_NUMBERS = 1 << MOST_BITS;
 
-    /** Null where there was never a term; behind termsMade are such as clear() left, to be used again. */
+    /** The first termsMade are in use; the others wait for calls that make terms. */
     private final Term[] terms = new Term[MOST_TERMS];
     private int termsMade = 0;
     private int freeBits = 0;
-    private final Row claims = new Row();
-    private final Row assumed = new Row();
+    private final Row claims = new Row(MOST_CLAIMS);
+    private final Row assumed = new Row(MOST_ASSUMED);
     /** How many claims there were when each open level was opened. */
-    private final Row levels = new Row();
+    private final Row levels = new Row(MOST_LEVELS);
     /** The assignments by which all claims are 1, in order; good unless stale. */
-    private final Row claimed = new Row();
+    private final Row claimed = new Row(MOST_NUMBERS);
     /** The models, in order; good unless stale. */
-    private final Row met = new Row();
+    private final Row met = new Row(MOST_NUMBERS);
     private boolean stale = true;
-    private final Row marks = new Row();
+    private final Row marks = new Row(MOST_NUMBERS);
     private final Diagram diagram = new Diagram();
 
     public BitSolver() {
-        claims.empty(MOST_CLAIMS);
-        assumed.empty(MOST_ASSUMED);
-        levels.empty(MOST_LEVELS);
+        for (int i = 0; i < terms.length; i++) {
+            terms[i] = new Term();
+        }
     }
 
     public int clear() {
@@ -429,21 +432,20 @@ public final class BitSolver {
         }
         Term made = terms[termsMade];
         if (made == null) {
-            made = new Term();
-            terms[termsMade] = made;
+            return null;
         }
         termsMade++;
         made.width = width;
         made.reach = reach;
         made.variable = false;
-        made.row.empty(1 << reach);
+        made.row.shorten(0);
         return made;
     }
 
     /** The models, in order. */
     private Row found() {
         if (stale) {
-            claimed.empty(1 << freeBits);
+            claimed.shorten(0);
             for (int x = 0; x < 1 << freeBits; x++) {
                 claimed.add(x);
             }
@@ -518,10 +520,14 @@ public final class BitSolver {
         return true;
     }
 
-    /** Numbers in a row that looks at each index; its cells are kept when it is emptied. */
+    /** Numbers in a row that looks at each index; it is made as long as it may ever become. */
     private static final class Row {
-        private int[] cells = new int[0];
+        private final int[] cells;
         private int used = 0;
+
+        private Row(int most) {
+            cells = new int[Math.max(0, most)];
+        }
 
         private int at(int place) {
             return place >= 0 && place < used ? cells[place] : 0;
@@ -546,24 +552,14 @@ public final class BitSolver {
             }
         }
 
-        /** No numbers, and room for so many. */
-        private void empty(int room) {
-            if (room > cells.length) {
-                cells = new int[room];
-            }
-            used = 0;
-        }
-
         private void zeros(int many) {
-            empty(many);
-            Arrays.fill(cells, 0);
-            used = Math.max(0, many);
+            used = Math.max(0, Math.min(many, cells.length));
+            Arrays.fill(cells, 0, used, 0);
         }
 
         private void take(Row other) {
-            empty(other.used);
-            System.arraycopy(other.cells, 0, cells, 0, other.used);
-            used = other.used;
+            used = Math.min(other.used, cells.length);
+            System.arraycopy(other.cells, 0, cells, 0, used);
         }
     }
 
@@ -573,7 +569,7 @@ public final class BitSolver {
         /** How many of an assignment's bits, from the first one on, can matter to it. */
         private int reach = 0;
         private boolean variable = false;
-        private final Row row = new Row();
+        private final Row row = new Row(MOST_NUMBERS);
 
         /** Its number by an assignment of so many bits. */
         private int by(int assignment, int many) {
@@ -669,9 +665,9 @@ public final class BitSolver {
         private static final int NAME_BITS = 10;
 
         /** The name of the part of each beginning of the assignments: 0 and 1 name what is so everywhere. */
-        private final Row parts = new Row();
-        private final Row keys = new Row();
-        private final Row names = new Row();
+        private final Row parts = new Row(MOST_NUMBERS);
+        private final Row keys = new Row(SLOTS);
+        private final Row names = new Row(SLOTS);
         private int named = 2;
 
         /** A function of so many bits that is 0 everywhere; the caller puts in where it is 1. */
