@@ -895,6 +895,17 @@ public final class EdgesTest {
         }
         sentence("24: great ones");
         greatSize();
+        sentence("24: how many different ones of its PARTS there are, of all bits of a product");
+        String[] product = {"word(6)", "word(6)", "widen(0, 12, false)", "widen(1, 12, false)", "act(7, 2, 3)"};
+        for (int bit = 0; bit < 12; bit++) {
+            boolean[] function = new boolean[4096];
+            for (int x = 0; x < 4096; x++) {
+                function[x] = (x / 64 * (x % 64) >> bit) % 2 == 1;
+            }
+            int parts = partsOf(function);
+            taken(product, "size(4, " + bit + ")", parts);
+            run(joined(product, "cut(4, " + bit + ", 1)", "assume(5)"), "great()", parts);
+        }
     }
 
     /** A function of 12 bits without any pattern has nearly as many parts as one can have (765). */
